@@ -1,0 +1,113 @@
+import java.nio.charset.StandardCharsets;
+
+/** What the tests share: feeding texts, and telling what is not as due. */
+final class Check {
+    private int asDue;
+    private int wrong;
+    private String promise = "";
+
+    void promise(String name) {
+        promise = name;
+    }
+
+    void due(String what, long got, long want) {
+        if (got == want) {
+            asDue++;
+            return;
+        }
+        wrong++;
+        System.out.println(promise + ": " + what + " answered " + got + ", due is " + want);
+    }
+
+    void due(String what, boolean got, boolean want) {
+        due(what, got ? 1 : 0, want ? 1 : 0);
+    }
+
+    /** A call that must throw what the document names, and nothing else. */
+    void noSuch(String what, Runnable call) {
+        try {
+            call.run();
+        } catch (java.util.NoSuchElementException e) {
+            due(what, e.getClass() == java.util.NoSuchElementException.class, true);
+            return;
+        }
+        due(what + " throws NoSuchElementException", false, true);
+    }
+
+    void finish() {
+        System.out.println((wrong == 0 ? "all as due: " : wrong + " wrong, as due: ") + asDue);
+        if (wrong != 0) {
+            System.exit(1);
+        }
+    }
+
+    static void feed(LentBoxes x, byte[] bytes) {
+        int[] n = new int[5];
+        for (int from = 0; from < bytes.length; from += 20) {
+            for (int i = 0; i < 5; i++) {
+                n[i] = 0;
+                for (int j = 0; j < 4; j++) {
+                    int at = from + 4 * i + j;
+                    n[i] = n[i] << 8 | (at < bytes.length ? bytes[at] & 255 : 0);
+                }
+            }
+            x.feed(n[0], n[1], n[2], n[3], n[4]);
+        }
+        x.end(bytes.length);
+    }
+
+    static void feed(LentBoxes x, String text) {
+        feed(x, text.getBytes(StandardCharsets.ISO_8859_1));
+    }
+
+    static int vestry(LentBoxes x, String text) {
+        feed(x, text);
+        return x.vestry();
+    }
+
+    static int book(LentBoxes x, int lives, String text) {
+        feed(x, text);
+        return x.book(lives);
+    }
+
+    static int sentence(LentBoxes x, String text) {
+        feed(x, text);
+        return x.sentence();
+    }
+
+    static int who(LentBoxes x, int... pairs) {
+        byte[] bytes = new byte[pairs.length];
+        for (int i = 0; i < pairs.length; i++) {
+            bytes[i] = (byte) pairs[i];
+        }
+        feed(x, bytes);
+        return x.who();
+    }
+
+    static LentBoxes made(String text) {
+        LentBoxes x = new LentBoxes();
+        vestry(x, text);
+        return x;
+    }
+
+    static String tagOf(LentBoxes x, int d) {
+        int length = x.tag(d);
+        StringBuilder text = new StringBuilder();
+        for (int i = 0; i < length; i++) {
+            text.append((char) x.byteAt(i));
+        }
+        return text.toString();
+    }
+
+    static String times(int n, String text) {
+        return text.repeat(n);
+    }
+
+    static String many(int n, String text) {
+        StringBuilder all = new StringBuilder();
+        for (int i = 0; i < n; i++) {
+            all.append(text.replace("#", String.valueOf((char) ('a' + i))));
+        }
+        return all.toString();
+    }
+}
