@@ -52,19 +52,19 @@ public final class LentBoxes {
     private static final int TAG_BYTES = 32;
 
     private final Tape tape;
-    private final World now;
+    private final World world;
     private final World[] images;
     private final Past past;
     private final State trial;
     private final Vestry freshVestry;
     private final Sentence freshSentence;
-    private final Book book;
+    private final Book latestBook;
     private final Matching matching;
     private final Draws draws;
     private final int[] ringOf;
-    private final byte[] tag;
-    private final int[] told;
-    private int fault;
+    private final byte[] tagBytes;
+    private final int[] toldLast;
+    private int latestFault;
     private int soonPlot;
     private int ringLength;
     private int asked;
@@ -73,7 +73,7 @@ public final class LentBoxes {
 
     public LentBoxes() {
         tape = new Tape();
-        now = new World();
+        world = new World();
         images = new World[IMAGES];
         for (int k = 0; k < IMAGES; k++) {
             images[k] = new World();
@@ -82,12 +82,12 @@ public final class LentBoxes {
         trial = new State();
         freshVestry = new Vestry();
         freshSentence = new Sentence();
-        book = new Book();
+        latestBook = new Book();
         matching = new Matching();
         draws = new Draws();
         ringOf = new int[DEAD];
-        tag = new byte[TAG_BYTES];
-        told = new int[4];
+        tagBytes = new byte[TAG_BYTES];
+        toldLast = new int[4];
         soonPlot = NONE;
         asked = NONE;
     }
@@ -115,31 +115,31 @@ public final class LentBoxes {
     public int vestry() {
         tape.open(VESTRY_BYTES);
         int lines = freshVestry.readFrom(tape);
-        fault = tape.fault;
-        if (fault != 0) {
+        latestFault = tape.fault;
+        if (latestFault != 0) {
             return -1 - tape.place;
         }
-        now.vestry.copyOf(freshVestry);
-        now.state.begin(now.vestry);
-        now.sentence.wipe();
+        world.vestry.copyOf(freshVestry);
+        world.state.begin(world.vestry);
+        world.sentence.wipe();
         past.forget();
         return lines;
     }
 
     public int fault() {
-        return fault;
+        return latestFault;
     }
 
     public int box(int b, int what) {
         if (!isBox(b)) {
             return NONE;
         }
-        State s = now.state;
+        State s = world.state;
         switch (what) {
             case 0:
-                return now.vestry.boxLong[b];
+                return world.vestry.boxLong[b];
             case 1:
-                return now.vestry.boxLasts[b];
+                return world.vestry.boxLasts[b];
             case 2:
                 return s.lent[b];
             case 3:
@@ -157,10 +157,10 @@ public final class LentBoxes {
         if (!isPlot(p)) {
             return NONE;
         }
-        State s = now.state;
+        State s = world.state;
         switch (what) {
             case 0:
-                return now.vestry.plotRest[p];
+                return world.vestry.plotRest[p];
             case 1:
                 return s.latest[p];
             case 2:
@@ -176,10 +176,10 @@ public final class LentBoxes {
         if (!isDead(d)) {
             throw new NoSuchElementException("no such one");
         }
-        State s = now.state;
+        State s = world.state;
         switch (what) {
             case 0:
-                return now.vestry.deadLong[d];
+                return world.vestry.deadLong[d];
             case 1:
                 return s.how[d];
             case 2:
@@ -191,33 +191,33 @@ public final class LentBoxes {
             case 5:
                 return s.lain[d];
             case 6:
-                return now.vestry.kin[d];
+                return world.vestry.kin[d];
             case 7:
-                return now.vestry.asks[d];
+                return world.vestry.asks[d];
             default:
                 throw new NoSuchElementException("no such what");
         }
     }
 
     public int now(int what) {
-        State s = now.state;
+        State s = world.state;
         switch (what) {
             case 0:
                 return s.day;
             case 1:
-                return s.bitsOf(COMING, now.vestry);
+                return s.bitsOf(COMING, world.vestry);
             case 2:
-                return s.bitsOf(WAITING, now.vestry);
+                return s.bitsOf(WAITING, world.vestry);
             case 3:
-                return s.bitsOf(LYING, now.vestry);
+                return s.bitsOf(LYING, world.vestry);
             case 4:
-                return s.bitsOf(LAID, now.vestry);
+                return s.bitsOf(LAID, world.vestry);
             case 5:
-                return s.freeBoxes(now.vestry);
+                return s.freeBoxes(world.vestry);
             case 6:
-                return s.freePlots(now.vestry);
+                return s.freePlots(world.vestry);
             case 7:
-                return now.vestry.frostOn(s.day) ? 1 : 0;
+                return world.vestry.frostOn(s.day) ? 1 : 0;
             default:
                 return NONE;
         }
@@ -227,48 +227,48 @@ public final class LentBoxes {
         if (!isDead(d) || !isBox(b)) {
             return NONE;
         }
-        trial.copyOf(now.state);
-        return done(now.state.lendHim(d, b, now.vestry));
+        trial.copyOf(world.state);
+        return done(world.state.lendHim(d, b, world.vestry));
     }
 
     public int lay(int d, int p) {
         if (!isDead(d) || !isPlot(p)) {
             return NONE;
         }
-        trial.copyOf(now.state);
-        return done(now.state.layHim(d, p, now.vestry));
+        trial.copyOf(world.state);
+        return done(world.state.layHim(d, p, world.vestry));
     }
 
     public int swap(int d, int e) {
         if (!isDead(d) || !isDead(e) || d == e) {
             return NONE;
         }
-        trial.copyOf(now.state);
-        return done(now.state.swapThem(d, e, now.vestry));
+        trial.copyOf(world.state);
+        return done(world.state.swapThem(d, e, world.vestry));
     }
 
     public int mend(int b) {
         if (!isBox(b)) {
             return NONE;
         }
-        trial.copyOf(now.state);
-        return done(now.state.mendIt(b));
+        trial.copyOf(world.state);
+        return done(world.state.mendIt(b));
     }
 
     public int days(int n) {
         if (n < 1 || n > 60) {
             return NONE;
         }
-        trial.copyOf(now.state);
-        return wentBy(now.state.passDays(n, now.vestry));
+        trial.copyOf(world.state);
+        return wentBy(world.state.passDays(n, world.vestry));
     }
 
     public int undo() {
-        return past.backTo(now.state);
+        return past.backTo(world.state);
     }
 
     public int match() {
-        return matching.find(now.vestry, now.state);
+        return matching.find(world.vestry, world.state);
     }
 
     public int matchOf(int d) {
@@ -276,7 +276,7 @@ public final class LentBoxes {
     }
 
     public int soon(int d) {
-        if (!isDead(d) || now.state.how[d] != LYING) {
+        if (!isDead(d) || world.state.how[d] != LYING) {
             return NONE;
         }
         for (int n = 0; n <= SOON_DAYS; n++) {
@@ -299,9 +299,9 @@ public final class LentBoxes {
         }
         // If nothing is done nobody stops waiting, so the last of these days has the most.
         int many = 0;
-        for (int d = 0; d < now.vestry.dead; d++) {
-            int how = now.state.how[d];
-            if (how == WAITING || how == COMING && now.vestry.deadDay[d] <= now.state.day + n) {
+        for (int d = 0; d < world.vestry.dead; d++) {
+            int how = world.state.how[d];
+            if (how == WAITING || how == COMING && world.vestry.deadDay[d] <= world.state.day + n) {
                 many++;
             }
         }
@@ -314,13 +314,13 @@ public final class LentBoxes {
         }
         int most = 0;
         for (int i = 0; i <= n; i++) {
-            most = Math.max(most, outOn(now.state.day + i, m + now.vestry.air));
+            most = Math.max(most, outOn(world.state.day + i, m + world.vestry.air));
         }
         return most;
     }
 
     public int ring(int d) {
-        if (!isDead(d) || now.state.how[d] != LYING) {
+        if (!isDead(d) || world.state.how[d] != LYING) {
             return NONE;
         }
         int length = ringFrom(d, false);
@@ -341,7 +341,7 @@ public final class LentBoxes {
         if (length < 2 || length > 12 || length % 2 != 0) {
             return NONE;
         }
-        int found = now.vestry.allDead();
+        int found = world.vestry.allDead();
         for (int i = 0; i < length; i += 2) {
             int what = tape.byteOf(i);
             if (what > 3) {
@@ -368,39 +368,39 @@ public final class LentBoxes {
             if ((reached >> e & 1) != 0) {
                 return steps;
             }
-            reached |= now.vestry.kinOfAny(reached);
+            reached |= world.vestry.kinOfAny(reached);
         }
         return NONE;
     }
 
     public int had(int b, int k) {
-        return !isBox(b) || k < 0 || k >= HAD ? NONE : now.state.had[b * HAD + k];
+        return !isBox(b) || k < 0 || k >= HAD ? NONE : world.state.had[b * HAD + k];
     }
 
     public int wear(int b, int what) throws NoSuchElementException {
         if (!isBox(b) || what < 0 || what > 1) {
             throw new NoSuchElementException("no such ones");
         }
-        return inLeastTerms(now.state.lent[b], now.vestry.boxLasts[b], what);
+        return inLeastTerms(world.state.lent[b], world.vestry.boxLasts[b], what);
     }
 
     public int mean(int what) throws NoSuchElementException {
-        if (now.vestry.dead == 0 || what < 0 || what > 1) {
+        if (world.vestry.dead == 0 || what < 0 || what > 1) {
             throw new NoSuchElementException("no such ones");
         }
         int sum = 0;
-        for (int d = 0; d < now.vestry.dead; d++) {
-            sum += now.state.waited[d];
+        for (int d = 0; d < world.vestry.dead; d++) {
+            sum += world.state.waited[d];
         }
-        return inLeastTerms(sum, now.vestry.dead, what);
+        return inLeastTerms(sum, world.vestry.dead, what);
     }
 
     public int longest() {
         int most = 0;
         int who = NONE;
-        for (int d = 0; d < now.vestry.dead; d++) {
-            if (now.state.waited[d] > most) {
-                most = now.state.waited[d];
+        for (int d = 0; d < world.vestry.dead; d++) {
+            if (world.state.waited[d] > most) {
+                most = world.state.waited[d];
                 who = d;
             }
         }
@@ -412,34 +412,34 @@ public final class LentBoxes {
             return NONE;
         }
         tagLength = 0;
-        tagName(now.vestry.deadName[d]);
-        int how = now.state.how[d];
-        int b = now.state.inBox[d];
-        int p = now.state.inPlot[d];
+        tagName(world.vestry.deadName[d]);
+        int how = world.state.how[d];
+        int b = world.state.inBox[d];
+        int p = world.state.inPlot[d];
         if (how == COMING) {
             tagText(COMES_TAG);
         } else if (how == WAITING) {
             tagText(WAITS_TAG);
         } else if (how == LYING && isBox(b)) {
             tagText(LIES_TAG);
-            tagName(now.vestry.boxName[b]);
+            tagName(world.vestry.boxName[b]);
         } else if (how == LAID && isPlot(p)) {
             tagText(LAID_TAG);
-            tagName(now.vestry.plotName[p]);
+            tagName(world.vestry.plotName[p]);
         }
         return tagLength;
     }
 
     public int byteAt(int i) {
-        return i < 0 || i >= tagLength ? NONE : tag[i] & 255;
+        return i < 0 || i >= tagLength ? NONE : tagBytes[i] & 255;
     }
 
     public int drawn(int n, int seed) {
         if (n < 1 || n > 60) {
             return NONE;
         }
-        trial.copyOf(now.state);
-        return wentBy(draws.live(n, seed, now.vestry, now.state));
+        trial.copyOf(world.state);
+        return wentBy(draws.live(n, seed, world.vestry, world.state));
     }
 
     public int odds(int d, int n, int seed) {
@@ -448,8 +448,8 @@ public final class LentBoxes {
         }
         int many = 0;
         for (int i = 0; i < n; i++) {
-            trial.copyOf(now.state);
-            draws.live(ODDS_DAYS, seed + i, now.vestry, trial);
+            trial.copyOf(world.state);
+            draws.live(ODDS_DAYS, seed + i, world.vestry, trial);
             if (trial.how[d] == LAID) {
                 many++;
             }
@@ -462,43 +462,43 @@ public final class LentBoxes {
             return -1000;
         }
         tape.open(BOOK_BYTES);
-        book.readFrom(tape, now.vestry);
-        fault = tape.fault;
-        if (fault != 0) {
+        latestBook.readFrom(tape, world.vestry);
+        latestFault = tape.fault;
+        if (latestFault != 0) {
             return -2 - tape.place;
         }
-        trial.copyOf(now.state);
+        trial.copyOf(world.state);
         int right = judge();
         if (lives == 1 && right > 0) {
-            past.keep(now.state);
-            now.state.copyOf(trial);
+            past.keep(world.state);
+            world.state.copyOf(trial);
         }
-        return right < book.lines ? right : NONE;
+        return right < latestBook.lines ? right : NONE;
     }
 
     public int told(int what) {
-        return !anyTold || what < 0 || what >= told.length ? NONE : told[what];
+        return !anyTold || what < 0 || what >= toldLast.length ? NONE : toldLast[what];
     }
 
     public int sentence() {
         tape.open(SENTENCE_BYTES);
         freshSentence.wipe();
-        if (freshSentence.readCond(tape, now.vestry, 1) && tape.kind != Tape.END) {
+        if (freshSentence.readCond(tape, world.vestry, 1) && tape.kind != Tape.END) {
             tape.fail(CANT_COME);
         }
-        fault = tape.fault;
-        if (fault != 0) {
+        latestFault = tape.fault;
+        if (latestFault != 0) {
             return -1 - tape.place;
         }
-        now.sentence.copyOf(freshSentence);
-        return now.sentence.ones;
+        world.sentence.copyOf(freshSentence);
+        return world.sentence.ones;
     }
 
     public int said(int k) {
-        if (now.sentence.ones == 0 || k < NONE) {
+        if (world.sentence.ones == 0 || k < NONE) {
             return NONE;
         }
-        int those = now.sentence.saidOf(now.vestry, now.state);
+        int those = world.sentence.saidOf(world.vestry, world.state);
         if (k == NONE) {
             return Integer.bitCount(those);
         }
@@ -518,7 +518,7 @@ public final class LentBoxes {
         if (k < 0 || k >= IMAGES) {
             return false;
         }
-        images[k].copyOf(now);
+        images[k].copyOf(world);
         images[k].kept = true;
         return true;
     }
@@ -527,7 +527,7 @@ public final class LentBoxes {
         if (k < 0 || k >= IMAGES || !images[k].kept) {
             return false;
         }
-        now.copyOf(images[k]);
+        world.copyOf(images[k]);
         past.forget();
         return true;
     }
@@ -535,17 +535,17 @@ public final class LentBoxes {
     public int count(int what) {
         switch (what) {
             case 0:
-                return now.vestry.boxes;
+                return world.vestry.boxes;
             case 1:
-                return now.vestry.plots;
+                return world.vestry.plots;
             case 2:
-                return now.vestry.dead;
+                return world.vestry.dead;
             case 3:
-                return now.vestry.kins;
+                return world.vestry.kins;
             case 4:
-                return now.vestry.frosts;
+                return world.vestry.frosts;
             case 5:
-                return now.vestry.air;
+                return world.vestry.air;
             case 6:
                 return tape.length;
             default:
@@ -554,15 +554,15 @@ public final class LentBoxes {
     }
 
     private boolean isBox(int b) {
-        return b >= 0 && b < now.vestry.boxes;
+        return b >= 0 && b < world.vestry.boxes;
     }
 
     private boolean isPlot(int p) {
-        return p >= 0 && p < now.vestry.plots;
+        return p >= 0 && p < world.vestry.plots;
     }
 
     private boolean isDead(int d) {
-        return d >= 0 && d < now.vestry.dead;
+        return d >= 0 && d < world.vestry.dead;
     }
 
     /** The trial holds all as it was ahead of an act: it can be undone, if the act was done. */
@@ -582,12 +582,12 @@ public final class LentBoxes {
 
     /** The least plot in which one could be laid behind n days, if nothing else is done. */
     private int plotBehind(int d, int n) {
-        int day = now.state.day + n;
-        if (now.vestry.frostOn(day)) {
+        int day = world.state.day + n;
+        if (world.vestry.frostOn(day)) {
             return NONE;
         }
-        for (int p = 0; p < now.vestry.plots; p++) {
-            if (now.state.restsTill[p] <= day && !now.vestry.areKin(d, now.state.latest[p])) {
+        for (int p = 0; p < world.vestry.plots; p++) {
+            if (world.state.restsTill[p] <= day && !world.vestry.areKin(d, world.state.latest[p])) {
                 return p;
             }
         }
@@ -597,9 +597,9 @@ public final class LentBoxes {
     /** How many boxes are out on a day, if each is out for so many days. */
     private int outOn(int day, int length) {
         int many = 0;
-        for (int d = 0; d < now.vestry.dead; d++) {
-            int how = now.state.how[d];
-            int from = how == COMING ? now.vestry.deadDay[d] : now.state.day;
+        for (int d = 0; d < world.vestry.dead; d++) {
+            int how = world.state.how[d];
+            int from = how == COMING ? world.vestry.deadDay[d] : world.state.day;
             if (how != LAID && from <= day && day < from + length) {
                 many++;
             }
@@ -609,20 +609,20 @@ public final class LentBoxes {
 
     /** How many go round from one who is lying; they are noted only when the ring is known to close. */
     private int ringFrom(int first, boolean noted) {
-        int home = now.state.inBox[first];
+        int home = world.state.inBox[first];
         int d = first;
         for (int k = 0; k < DEAD; k++) {
             if (noted) {
                 ringOf[k] = d;
             }
-            int b = now.vestry.asks[d];
-            if (!isBox(b) || now.vestry.deadLong[d] > now.vestry.boxLong[b]) {
+            int b = world.vestry.asks[d];
+            if (!isBox(b) || world.vestry.deadLong[d] > world.vestry.boxLong[b]) {
                 return NONE;
             }
             if (b == home) {
                 return k + 1;
             }
-            d = now.state.holds[b];
+            d = world.state.holds[b];
             if (!isDead(d)) {
                 return NONE;
             }
@@ -634,19 +634,19 @@ public final class LentBoxes {
     private int numberOf(int what, int d) {
         switch (what) {
             case 0:
-                return now.vestry.deadLong[d];
+                return world.vestry.deadLong[d];
             case 1:
-                return now.state.waited[d];
+                return world.state.waited[d];
             case 2:
-                return now.state.inBox[d] == NONE ? NO_PLACE : now.state.inBox[d];
+                return world.state.inBox[d] == NONE ? NO_PLACE : world.state.inBox[d];
             default:
-                return now.state.inPlot[d] == NONE ? NO_PLACE : now.state.inPlot[d];
+                return world.state.inPlot[d] == NONE ? NO_PLACE : world.state.inPlot[d];
         }
     }
 
     private int thoseWith(int what, int number) {
         int those = 0;
-        for (int d = 0; d < now.vestry.dead; d++) {
+        for (int d = 0; d < world.vestry.dead; d++) {
             if (numberOf(what, d) == number) {
                 those |= 1 << d;
             }
@@ -669,7 +669,7 @@ public final class LentBoxes {
 
     private int greatestAlike(int what, int those) {
         int greatest = 0;
-        for (int d = 0; d < now.vestry.dead; d++) {
+        for (int d = 0; d < world.vestry.dead; d++) {
             if ((those >> d & 1) != 0) {
                 int alike = those & thoseWith(what, numberOf(what, d));
                 greatest = Math.max(greatest, Integer.bitCount(alike));
@@ -695,7 +695,7 @@ public final class LentBoxes {
 
     private void tagByte(int value) {
         if (tagLength < TAG_BYTES) {
-            tag[tagLength] = (byte) value;
+            tagBytes[tagLength] = (byte) value;
             tagLength++;
         }
     }
@@ -704,16 +704,16 @@ public final class LentBoxes {
     private int judge() {
         int why = 0;
         int right = 0;
-        while (right < book.lines && why == 0) {
-            why = book.liveLine(right, now.vestry, trial);
+        while (right < latestBook.lines && why == 0) {
+            why = latestBook.liveLine(right, world.vestry, trial);
             if (why == 0) {
                 right++;
             }
         }
-        told[0] = why;
-        told[1] = right;
-        told[2] = trial.day;
-        told[3] = trial.bitsOf(LAID, now.vestry);
+        toldLast[0] = why;
+        toldLast[1] = right;
+        toldLast[2] = trial.day;
+        toldLast[3] = trial.bitsOf(LAID, world.vestry);
         anyTold = true;
         return right;
     }

@@ -123,6 +123,9 @@ public final class PromisesTest {
         due("nothing of the old one is undone", x.undo(), NONE);
         due("the empty one", x.vestry(), 0);
         due("no boxes", x.count(0), 0);
+        due("as often as one likes", Check.vestry(x, PARISH) + Check.vestry(x, PARISH), 32);
+        due("two kin", x.count(3), 2);
+        due("one frost", x.count(4), 1);
     }
 
     private void promise5() {
@@ -472,9 +475,32 @@ public final class PromisesTest {
         due("day 0", x.now(0), 0);
         due("swap", x.undo(), 2);
         due("back in his box", x.dead(0, 2), 0);
+        undoingEach();
         due("a book of which a line was lived", Check.book(x, 1, "day 1;mend d;"), 1);
         due("it is undone", x.undo(), 2);
         due("day 0", x.now(0), 0);
+    }
+
+    /** odds() goes ahead of each act, so that nothing of its days is mixed into what is kept. */
+    private void undoingEach() {
+        LentBoxes x = Check.made(EVEN);
+        x.days(1);
+        for (int act = 0; act < 7; act++) {
+            x.odds(0, 30, 5);
+            int done = act == 0 ? x.lend(0, 0) : act == 1 ? x.lend(1, 1) : act == 2 ? x.swap(0, 1) : act == 3 ? x.lay(0, 0)
+                    : act == 4 ? x.mend(1) : act == 5 ? x.days(2) - 2 : x.drawn(2, 9) - 2;
+            due("act " + act, done, 0);
+        }
+        int[] day = {3, 1, 1, 1, 1, 1, 1};
+        int[] lying = {0, 0, 0, 3, 3, 1, 0};
+        due("day", x.now(0), 5);
+        for (int i = 0; i < 7; i++) {
+            due("more", x.undo(), 7 - i);
+            due("day ahead of act " + (6 - i), x.now(0), day[i]);
+            if (i > 2) {
+                due("lying ahead of act " + (6 - i), x.now(3), lying[i]);
+            }
+        }
     }
 
     private void foresight() {
@@ -589,6 +615,8 @@ public final class PromisesTest {
         due("who is laid needs none", x.need(3, 2), 3);
         x.lend(1, 1);
         due("who lies does", x.need(0, 1), 1);
+        due("none", Check.made("air 9;dead k 10 99;").need(98, 60), 0);
+        due("the last day", Check.made("air 9;dead k 10 99;").need(99, 60), 1);
         LentBoxes y = Check.made("air 0;dead k 10 0;dead l 10 1;dead m 10 2;");
         due("one after the other", y.need(9, 1), 1);
         due("two at once", y.need(9, 2), 2);
@@ -764,6 +792,9 @@ public final class PromisesTest {
         due("1 below", x.mean(1), 1);
         check.promise("30 longest");
         due("nobody waited", x.longest(), NONE);
+        LentBoxes y = Check.made("dead k 50 0;dead l 50 0;");
+        y.days(1);
+        due("one day", y.longest(), 0);
         x.days(2);
         due("the first of like ones", x.longest(), 1);
         check.promise("29 mean");
@@ -876,6 +907,14 @@ public final class PromisesTest {
         LentBoxes z = Check.made("dead k 50 0;dead l 50 0;box a 50 9;box b 50 9;box c 50 9;");
         z.drawn(2, seedFor(8, 3, 8, 2, 2, 1, 3, 2));
         due("the second day's draw", z.dead(1, 2), 2);
+        LentBoxes one = Check.made("box a 50 9;plot p 0;dead k 50 0;");
+        one.drawn(1, seedFor(8, 1, 1, 0, 1, 0));
+        due("one and one box", one.dead(0, 1), 2);
+        one.drawn(1, seedFor(8, 6, 1, 0, 1, 0));
+        one.drawn(1, seedFor(8, 4, 1, 0, 1, 0));
+        due("one plot", one.dead(0, 1), 3);
+        one.drawn(1, seedFor(8, 5, 1, 0));
+        due("one box is mended", one.box(0, 2), 0);
         LentBoxes u = Check.made("plot p 0;dead k 50 0;");
         due("no boxes", u.drawn(60, 77), 60);
         due("nobody lies", u.now(3), 0);
@@ -912,6 +951,7 @@ public final class PromisesTest {
         due("all stays", x.now(0), 0);
         due("nothing to undo", x.undo(), NONE);
         due("n 0", x.odds(0, 0, 5), NONE);
+        due("n 1", x.odds(1, 1, 5), 0);
         due("n 31", x.odds(0, 31, 5), NONE);
         due("no such one", x.odds(2, 5, 5), NONE);
         due("no such one", x.odds(-1, 5, 5), NONE);
