@@ -716,6 +716,9 @@ public final class PromisesTest {
         due("the plot", x.ask(), 3);
         x.vestry();
         due("it stays", x.ask(), 3);
+        LentBoxes y = Check.made(Check.many(12, "dead #x 50 0;"));
+        due("twelve", Check.who(y, 0, 50), 4095);
+        due("all alike in all four", y.ask(), 0);
     }
 
     private void promise26() {
@@ -755,6 +758,10 @@ public final class PromisesTest {
         due("no such box", x.had(-1, 0), NONE);
         x.mend(0);
         due("mending leaves it", x.had(0, 0), 4);
+        x.lend(5, 1);
+        due("the other box's are its own", x.had(0, 4), NONE);
+        due("one had it", x.had(1, 0), 5);
+        due("the last of nine boxes", Check.made(Check.many(9, "box #x 50 9;")).had(8, 4), NONE);
         LentBoxes y = Check.made(EVEN);
         y.lend(0, 0);
         y.lend(1, 1);
