@@ -1,4 +1,8 @@
+import java.lang.reflect.InvocationTargetException;
+import java.lang.reflect.Method;
 import java.nio.charset.StandardCharsets;
+import java.util.Arrays;
+import java.util.Comparator;
 
 /** What the tests share: feeding texts, and telling what is not as due. */
 final class Check {
@@ -32,6 +36,28 @@ final class Check {
             return;
         }
         due(what + " throws NoSuchElementException", false, true);
+    }
+
+    /** Runs each test of an object, in the order of their names: the methods whose name has a '_'. */
+    void runEach(Object tests) throws ReflectiveOperationException {
+        Method[] all = tests.getClass().getDeclaredMethods();
+        Arrays.sort(all, Comparator.comparing(Method::getName));
+        for (Method test : all) {
+            if (test.getName().contains("_") && !test.isSynthetic()) {
+                promise(test.getName());
+                int before = asDue + wrong;
+                runOne(tests, test);
+                due("looks at something", asDue + wrong > before, true);
+            }
+        }
+    }
+
+    private void runOne(Object tests, Method test) throws ReflectiveOperationException {
+        try {
+            test.invoke(tests);
+        } catch (InvocationTargetException e) {
+            due("threw " + e.getCause(), true, false);
+        }
     }
 
     void finish() {
