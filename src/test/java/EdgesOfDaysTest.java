@@ -468,6 +468,27 @@ public final class EdgesOfDaysTest {
         due("one fewer", x.soon(0), 239);
     }
 
+    /** No vestry can tell of more: the last frost ends ahead of day 259, and no plot rests longer than 60 days. */
+    void terms3_soon_at_its_greatest() {
+        LentBoxes x = Check.made("box a 50 9;box b 50 9;plot p 60;dead k 50 0;dead l 50 0;"
+                + "frost 60 60;frost 120 60;frost 180 60;frost 199 60;");
+        x.lend(0, 0);
+        x.lend(1, 1);
+        x.lay(0, 0);
+        due("behind rest and frosts", x.soon(1), 259);
+        due("in p", x.soonIn(), 0);
+    }
+
+    void terms3_soon_where_rest_and_frost_end_on_one_day() {
+        LentBoxes x = Check.made("box a 50 9;box b 50 9;plot p 3;dead k 50 0;dead l 50 0;frost 1 2;");
+        x.lend(0, 0);
+        x.lend(1, 1);
+        x.lay(0, 0);
+        due("3", x.soon(1), 3);
+        x.days(3);
+        due("and so it is", x.lay(1, 0), 0);
+    }
+
     void terms3_soon_never_where_kin_was_laid_latest() {
         LentBoxes x = Check.made("box a 50 9;box b 50 9;plot p 0;plot q 0;dead k 50 0;dead l 50 0;kin k l;");
         x.lend(0, 0);
@@ -486,6 +507,26 @@ public final class EdgesOfDaysTest {
         due("98", x.crowd(98), 3);
         due("99", x.crowd(99), 4);
         due("nothing went by", x.now(0), 0);
+    }
+
+    void terms3_crowd_from_a_later_day_on() {
+        LentBoxes x = Check.made("dead k 50 0;dead l 50 5;dead m 50 99;");
+        x.days(2);
+        due("day 4", x.crowd(2), 1);
+        due("day 5", x.crowd(3), 2);
+        due("day 98", x.crowd(96), 2);
+        due("day 99", x.crowd(97), 3);
+    }
+
+    void terms3_crowd_and_need_on_day_400() {
+        LentBoxes x = Check.made("dead k 50 0;dead l 50 99;");
+        for (int i = 0; i < 7; i++) {
+            x.days(60);
+        }
+        due("crowd(0)", x.crowd(0), 2);
+        due("crowd(99)", x.crowd(99), 2);
+        due("need(0, 1)", x.need(0, 1), 2);
+        due("need(99, 60)", x.need(99, 60), 2);
     }
 
     void terms3_crowd_of_those_who_wait_alone() {
@@ -732,6 +773,105 @@ public final class EdgesOfDaysTest {
             y.drawn(1, seed);
             due("seed " + seed, y.dead(0, 1), first <= 2 ? LYING : WAITING);
         }
+    }
+
+    private static final String DRAWN = "box a 50 9;box b 50 9;box c 50 9;plot p 0;plot q 0;" + Check.many(5, "dead d# 50 0;")
+            + "air 0;";
+
+    void terms3_drawn_0_1_or_2_one_is_lent_a_box() {
+        for (int act = 0; act <= 2; act++) {
+            LentBoxes x = Check.made(DRAWN);
+            due("a day", x.drawn(1, Check.seedFor(8, act, 5, 4 - act, 3, act)), 1);
+            due("his box", x.dead(4 - act, 2), act);
+            due("nobody else", x.now(3), 1 << 4 - act);
+            due("the day went behind it", x.dead(4 - act, 5), 1);
+        }
+    }
+
+    void terms3_drawn_3_or_4_one_is_laid() {
+        for (int act = 3; act <= 4; act++) {
+            LentBoxes x = Check.made(DRAWN);
+            x.lend(4, 0);
+            x.lend(3, 1);
+            due("a day", x.drawn(1, Check.seedFor(8, act, 5, act, 2, act - 3)), 1);
+            due("his plot", x.dead(act, 3), act - 3);
+            due("he alone", x.now(4), 1 << act);
+        }
+    }
+
+    void terms3_drawn_5_a_box_is_mended() {
+        LentBoxes x = Check.made(DRAWN);
+        for (int d = 0; d < 3; d++) {
+            x.lend(d, d);
+            x.lay(d, 0);
+        }
+        due("a day", x.drawn(1, Check.seedFor(8, 5, 3, 1)), 1);
+        due("b", x.box(1, 2), 0);
+        due("not a", x.box(0, 2), 1);
+        due("not c", x.box(2, 2), 1);
+    }
+
+    void terms3_drawn_6_two_swap_if_unlike() {
+        LentBoxes x = Check.made(DRAWN);
+        for (int d = 0; d < 3; d++) {
+            x.lend(d, d);
+        }
+        due("a day", x.drawn(1, Check.seedFor(8, 6, 5, 2, 5, 0)), 1);
+        due("his", x.dead(2, 2), 0);
+        due("hers", x.dead(0, 2), 2);
+        due("alike", x.drawn(1, Check.seedFor(8, 6, 5, 1, 5, 1)), 1);
+        due("nothing", x.dead(1, 2), 1);
+        due("lies yet", x.box(1, 3), 1);
+    }
+
+    void terms3_drawn_7_nothing_is_done() {
+        LentBoxes x = Check.made(DRAWN);
+        x.lend(0, 0);
+        due("a day", x.drawn(1, Check.seedFor(8, 7)), 1);
+        due("lying", x.now(3), 1);
+        due("laid", x.now(4), 0);
+        due("no draw but that of 8", x.drawn(2, Check.seedFor(8, 7, 8, 0, 5, 4, 3, 2)), 2);
+        due("the second day's", x.dead(4, 2), 2);
+    }
+
+    void terms3_drawn_each_if_it_can_be() {
+        LentBoxes x = Check.made(DRAWN);
+        x.lend(0, 0);
+        due("not free", x.drawn(1, Check.seedFor(8, 0, 5, 1, 3, 0)), 1);
+        due("he waits not laid", x.drawn(1, Check.seedFor(8, 3, 5, 1, 2, 0)), 1);
+        due("lies in it", x.drawn(1, Check.seedFor(8, 5, 3, 0)), 1);
+        due("one lies not", x.drawn(1, Check.seedFor(8, 6, 5, 0, 5, 1)), 1);
+        due("lying", x.now(3), 1);
+        due("laid", x.now(4), 0);
+        due("lent", x.box(0, 2), 1);
+        due("the draws were made all the same", x.drawn(2, Check.seedFor(8, 0, 5, 1, 3, 0, 8, 1, 5, 1, 3, 1)), 2);
+        due("the second day's", x.dead(1, 2), 1);
+    }
+
+    void terms3_drawn_of_one_of_each() {
+        LentBoxes x = Check.made("box a 50 9;plot p 0;dead k 50 0;");
+        x.drawn(1, Check.seedFor(8, 2, 1, 0, 1, 0));
+        due("lent", x.dead(0, 1), LYING);
+        due("with himself", x.drawn(1, Check.seedFor(8, 6, 1, 0, 1, 0)), 1);
+        due("no swap", x.dead(0, 2), 0);
+        x.drawn(1, Check.seedFor(8, 4, 1, 0, 1, 0));
+        due("laid", x.now(4), 1);
+        x.drawn(1, Check.seedFor(8, 5, 1, 0));
+        due("mended", x.box(0, 2), 0);
+    }
+
+    /** A draw of one is a draw, too: x goes on by it. */
+    void terms3_drawn_x_goes_on_by_draws_of_one() {
+        int seed = Check.seedFor(8, 1, 1, 0, 1, 0, 8, 3, 1, 0, 1, 0, 8, 5, 1, 0);
+        LentBoxes x = Check.made("box a 50 9;plot p 0;dead k 50 0;");
+        due("three days", x.drawn(3, seed), 3);
+        due("laid on the second", x.dead(0, 5), 1);
+        due("mended on the third", x.box(0, 2), 0);
+        seed = Check.seedFor(8, 6, 1, 0, 1, 0, 8, 2, 1, 0, 1, 0, 8, 7, 8, 7, 8, 7);
+        LentBoxes y = Check.made("box a 50 9;plot p 0;dead k 50 0;");
+        y.drawn(5, seed);
+        due("lent on the second", y.dead(0, 4), 1);
+        due("lay from then on", y.dead(0, 5), 4);
     }
 
     void terms3_drawn_nothing_more_is_drawn_if_there_are_none() {

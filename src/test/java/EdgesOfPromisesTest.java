@@ -1,3 +1,5 @@
+import java.lang.reflect.Method;
+
 /** Promises 1 to 41: each sentence that names an edge has its own test, named by the promise. */
 public final class EdgesOfPromisesTest {
     private static final int NONE = LentBoxes.NONE;
@@ -16,6 +18,18 @@ public final class EdgesOfPromisesTest {
         EdgesOfPromisesTest tests = new EdgesOfPromisesTest();
         tests.check.runEach(tests);
         tests.check.finish();
+    }
+
+    /** So that no promise is forgotten. */
+    void all_promises_have_a_test() {
+        for (int n = 1; n <= 41; n++) {
+            String prefix = (n < 10 ? "promise0" : "promise") + n + "_";
+            boolean found = false;
+            for (Method test : getClass().getDeclaredMethods()) {
+                found |= test.getName().startsWith(prefix);
+            }
+            check.due(prefix, found, true);
+        }
     }
 
     private void due(String what, long got, long want) {
@@ -203,6 +217,34 @@ public final class EdgesOfPromisesTest {
         due("air", x.count(5), 1);
         due("lend", x.lend(0, 0), NONE);
         due("undo", x.undo(), NONE);
+    }
+
+    void promise04_vestry_full_of_all_and_again() {
+        String full = ALL + Check.many(11, "kin dl d#;") + "kin da db;" + Check.times(4, "frost 9 9;") + "air 9;";
+        LentBoxes x = new LentBoxes();
+        for (int i = 0; i < 3; i++) {
+            due("lines", Check.vestry(x, full), 9 + 5 + 12 + 12 + 4 + 1);
+            due("kin", x.count(3), 12);
+            due("frost", x.count(4), 4);
+            due("a fault behind all of it", Check.vestry(x, full + "air"), -1 - full.length());
+        }
+        due("one line", Check.vestry(x, "dead k 50 0;"), 1);
+        due("no kin", x.dead(0, 6), 0);
+        due("no frost", x.count(4), 0);
+        due("no kin told", x.count(3), 0);
+        x.days(9);
+        due("no frost on day 9", x.now(7), 0);
+    }
+
+    void promise04_vestry_days_waited_and_lain_begin_anew() {
+        LentBoxes x = few();
+        x.days(3);
+        Check.vestry(x, FEW);
+        for (int d = 0; d < 4; d++) {
+            due("waited", x.dead(d, 4), 0);
+            due("lain", x.dead(d, 5), 0);
+        }
+        due("longest", x.longest(), NONE);
     }
 
     void promise04_vestry_leaves_what_other_calls_told_last() {
@@ -453,6 +495,17 @@ public final class EdgesOfPromisesTest {
         due("acts: two", x.undo(), 1);
     }
 
+    void promise12_swap_both_go_and_the_boxes_know() {
+        LentBoxes x = Check.made("box a 50 9;box b 50 9;dead k 50 0;dead l 50 0;");
+        x.lend(0, 0);
+        x.lend(1, 1);
+        due("done", x.swap(1, 0), 0);
+        due("k in b", x.dead(0, 2), 1);
+        due("l in a", x.dead(1, 2), 0);
+        due("in a l", x.box(0, 3), 1);
+        due("in b k", x.box(1, 3), 0);
+    }
+
     void promise13_mend_no_such_one() {
         LentBoxes x = Check.made(FEW);
         for (int wrong : WRONG) {
@@ -590,6 +643,62 @@ public final class EdgesOfPromisesTest {
         due("had", x.had(1, 0), NONE);
         due("lend", x.undo(), 0);
         due("lent", x.box(0, 2), 0);
+    }
+
+    /** odds() goes ahead of the act and behind it, so that nothing of its days is mixed into what is kept. */
+    void promise15_undo_brings_back_all_that_was_so() {
+        for (int last = 0; last < 8; last++) {
+            LentBoxes x = Check.made("box a 50 9;box b 50 9;plot p 3;plot q 0;dead k 50 0;dead l 50 0;dead m 60 1;air 2;");
+            for (int act = 0; act < last; act++) {
+                doneOne(x, act);
+            }
+            String seen = allOf(x);
+            x.odds(0, 30, 5);
+            due("act " + last, doneOne(x, last), 0);
+            x.odds(0, 30, 6);
+            check.due("it changed something", allOf(x).equals(seen), false);
+            due("left", x.undo(), last);
+            check.due("as ahead of act " + last, allOf(x).equals(seen), true);
+        }
+    }
+
+    private static int doneOne(LentBoxes x, int act) {
+        switch (act) {
+            case 0:
+                return x.days(2) - 2;
+            case 1:
+                return x.lend(0, 0);
+            case 2:
+                return x.lend(1, 1);
+            case 3:
+                return x.swap(0, 1);
+            case 4:
+                return x.lay(0, 0);
+            case 5:
+                return x.mend(1);
+            case 6:
+                return x.drawn(9, 4) - 9;
+            default:
+                return Check.book(x, 1, "day 5;") + 1;
+        }
+    }
+
+    /** Every number that box(), plot(), dead(), now() and had() tell. */
+    private static String allOf(LentBoxes x) {
+        StringBuilder all = new StringBuilder();
+        for (int what = 0; what < 8; what++) {
+            for (int b = 0; b < x.count(0) && what < 6; b++) {
+                all.append(x.box(b, what)).append(' ').append(x.had(b, what)).append(' ');
+            }
+            for (int p = 0; p < x.count(1) && what < 4; p++) {
+                all.append(x.plot(p, what)).append(' ');
+            }
+            for (int d = 0; d < x.count(2); d++) {
+                all.append(x.dead(d, what)).append(' ');
+            }
+            all.append(x.now(what)).append('\n');
+        }
+        return all.toString();
     }
 
     void promise15_undo_a_book_of_which_some_line_was_lived() {
@@ -930,6 +1039,41 @@ public final class EdgesOfPromisesTest {
         due("long", x.ask(), 0);
     }
 
+    void promise25_ask_of_all_twelve_alike() {
+        LentBoxes x = Check.made(ALL);
+        due("all", Check.who(x, 0, 50), 4095);
+        due("the first", x.ask(), 0);
+    }
+
+    void promise25_ask_any_of_the_four() {
+        LentBoxes x = Check.made("box a 90 9;box b 90 9;plot p 0;plot q 0;dead k 50 0;dead l 50 0;dead m 60 0;");
+        due("all", Check.who(x, 1, 0), 7);
+        due("long", x.ask(), 0);
+        x.lend(0, 0);
+        x.days(1);
+        due("k, l", Check.who(x, 0, 50), 3);
+        due("waited, as the box is not ahead of it", x.ask(), 1);
+        x.undo();
+        due("k, l", Check.who(x, 0, 50), 3);
+        due("the box", x.ask(), 2);
+        x.lay(0, 1);
+        due("k, l", Check.who(x, 0, 50), 3);
+        due("the plot", x.ask(), 3);
+    }
+
+    void promise25_ask_by_the_greatest_number_whoever_is_in_it() {
+        LentBoxes x = Check.made("box a 90 9;dead k 50 0;dead l 50 0;dead m 50 0;dead n 60 0;dead o 70 0;dead p 80 0;");
+        for (int who = 0; who < 2; who++) {
+            due("all", Check.who(x, 1, 0), 63);
+            due("long: 3 of 6", x.ask(), 0);
+        }
+        LentBoxes y = Check.made("box a 90 9;box b 90 9;dead k 50 0;dead l 50 0;dead m 60 0;");
+        y.lend(1, 0);
+        y.lend(2, 1);
+        due("all", Check.who(y, 1, 0), 7);
+        due("long: k and l alike; the box: none alike", y.ask(), 2);
+    }
+
     // 26, 27: near, had
 
     void promise26_near_no_such_ones() {
@@ -952,14 +1096,14 @@ public final class EdgesOfPromisesTest {
     }
 
     void promise27_had_0_to_3() {
-        LentBoxes x = Check.made("box a 50 9;box b 50 9;plot p 0;air 0;" + Check.many(8, "dead d# 50 0;"));
-        for (int d = 0; d < 8; d++) {
+        LentBoxes x = Check.made("box a 50 9;box b 50 9;plot p 0;air 0;" + Check.many(12, "dead d# 50 0;"));
+        for (int d = 0; d < 12; d++) {
             x.lend(d, d % 2);
             x.lay(d, 0);
         }
         for (int k = 0; k < 4; k++) {
-            due("a " + k, x.had(0, k), 6 - 2 * k);
-            due("b " + k, x.had(1, k), 7 - 2 * k);
+            due("a " + k, x.had(0, k), 10 - 2 * k);
+            due("b " + k, x.had(1, k), 11 - 2 * k);
         }
         for (int wrong : WRONG) {
             due("k " + wrong, x.had(0, wrong), NONE);
@@ -1044,6 +1188,16 @@ public final class EdgesOfPromisesTest {
         due("l is laid", x.longest(), 1);
         x.days(1);
         due("k as long: the first", x.longest(), 0);
+    }
+
+    void promise30_longest_of_all_twelve() {
+        LentBoxes x = Check.made(Check.many(9, "box b# 50 9;") + Check.many(12, "dead d# 50 0;"));
+        due("nobody", x.longest(), NONE);
+        for (int d = 0; d < 9; d++) {
+            x.lend(d, d);
+        }
+        x.days(1);
+        due("the first of the last", x.longest(), 9);
     }
 
     // 31, 32: tag, byteAt
@@ -1172,6 +1326,25 @@ public final class EdgesOfPromisesTest {
             }
             due("left " + left, x.odds(0, 30, 0), want);
         }
+    }
+
+    void promise34_odds_of_20_days_and_no_day_fewer_or_more() {
+        int[] by = new int[3];
+        for (int from = 0; from < 900; from += 30) {
+            LentBoxes x = few();
+            int want = 0;
+            for (int seed = from; seed < from + 30; seed++) {
+                for (int n = 19; n <= 21; n++) {
+                    x.image(0);
+                    x.drawn(n, seed);
+                    by[n - 19] += x.dead(0, 1) == 3 ? 1 : 0;
+                    want += n == 20 && x.dead(0, 1) == 3 ? 1 : 0;
+                    x.restore(0);
+                }
+            }
+            due("from " + from, x.odds(0, 30, from), want);
+        }
+        check.due("19 would be told from 20, 20 from 21", by[0] < by[1] && by[1] < by[2], true);
     }
 
     void promise34_odds_change_nothing() {
@@ -1362,6 +1535,19 @@ public final class EdgesOfPromisesTest {
         LentBoxes y = new LentBoxes();
         Check.sentence(y, "not laid");
         due("there are none", y.said(NONE), 0);
+    }
+
+    void promise38_said_of_20_ones() {
+        LentBoxes x = few();
+        due("or", Check.sentence(x, Check.times(19, "laid or ") + "lying"), 20);
+        due("k, l", x.said(NONE), 2);
+        due("the first", Check.sentence(x, "lying" + Check.times(19, " or laid")), 20);
+        due("k, l", x.said(NONE), 2);
+        due("and", Check.sentence(x, Check.times(19, "lying and ") + "in a"), 20);
+        due("k", x.said(NONE), 1);
+        due("within", Check.sentence(x, Check.times(7, "not ") + "lying or " + Check.times(6, "(") + "in b and lying"
+                + Check.times(3, ")") + " or laid" + Check.times(3, ")") + " and not laid"), 8 + 9 + 2);
+        due("all but k", x.said(NONE), 3);
     }
 
     void promise38_said_as_all_is_now() {
@@ -1558,6 +1744,31 @@ public final class EdgesOfPromisesTest {
         due("ask", x.ask(), 0);
         due("told", x.told(2), 4);
         due("fault", x.fault(), 3);
+    }
+
+    void promise40_restore_brings_back_all_that_was_so() {
+        LentBoxes x = Check.made("box a 50 9;box b 50 9;plot p 3;plot q 0;dead k 50 0;dead l 50 0;dead m 60 1;kin k m;asks k b;"
+                + "air 2;frost 9 9;");
+        x.days(2);
+        x.lend(0, 0);
+        x.lend(1, 1);
+        x.days(1);
+        x.lay(0, 0);
+        String seen = allOf(x);
+        x.image(1);
+        x.days(3);
+        x.lay(1, 1);
+        Check.vestry(x, ALL);
+        x.drawn(20, 8);
+        x.restore(1);
+        check.due("as it was", allOf(x).equals(seen), true);
+        Check.vestry(x, "dead k 50 0;");
+        x.days(9);
+        x.restore(1);
+        check.due("as it was, again", allOf(x).equals(seen), true);
+        due("kin", x.near(0, 2), 1);
+        check.due("names", Check.tagOf(x, 0).equals("k laid in p"), true);
+        check.due("names", Check.tagOf(x, 1).equals("l lies in b"), true);
     }
 
     // 41: count

@@ -494,6 +494,32 @@ public final class EdgesOfTextsTest {
         texts.sentenceAt(1, 200, blanks(197) + "in kk");
     }
 
+    void terms1_faults_a_token_of_another_kind_can_not_come() {
+        texts.vestry(1, "box |10 10 1;");
+        texts.vestry(1, "box a |b 1;");
+        texts.vestry(1, "box a 10 |b;");
+        texts.vestry(1, "plot a |b;");
+        texts.vestry(1, "dead a 10 |b;");
+        texts.vestry(1, "frost |a 1;");
+        texts.vestry(1, "frost 1 |a;");
+        texts.vestry(1, "air |a;");
+        texts.vestry(1, FOLK + "kin |1 k;");
+        texts.vestry(1, FOLK + "kin k |1;");
+        texts.vestry(1, FOLK + "asks |1 a;");
+        texts.vestry(1, FOLK + "asks k |1;");
+        texts.vestry(1, "box a 10 1|<");
+        texts.book(1, "lend |1 a;");
+        texts.book(1, "lend k |1;");
+        texts.book(1, "lay k |1;");
+        texts.book(1, "swap k |1;");
+        texts.book(1, "mend |1;");
+        texts.book(1, "day |k;");
+        texts.sentence(1, "in |1");
+        texts.sentence(1, "kin |1");
+        texts.sentence(1, "number = |k");
+        texts.sentence(1, "|1");
+    }
+
     void terms1_faults_the_first_along_the_text() {
         texts.vestry(2, "box a |9 0;box a 1 1;");
         texts.vestry(3, "box a 10 1;box |a 9 0;.");

@@ -851,51 +851,32 @@ public final class PromisesTest {
         due("its end", x.byteAt(7), NONE);
     }
 
-    /** The draws are worked out here once more, so that seeds can be found for each kind of day. */
-    private static int draw(int[] x, int n) {
-        x[0] = x[0] * 1103515245 + 12345;
-        return (x[0] >>> 8) % n;
-    }
-
-    private static int seedFor(int... draws) {
-        for (int seed = 0;; seed++) {
-            int[] x = {seed};
-            boolean found = true;
-            for (int i = 0; i < draws.length && found; i += 2) {
-                found = draw(x, draws[i]) == draws[i + 1];
-            }
-            if (found) {
-                return seed;
-            }
-        }
-    }
-
     private void draws() {
         check.promise("33 drawn");
         LentBoxes x = Check.made("box a 50 9;box b 50 9;box c 50 9;plot p 0;plot q 0;" + Check.many(4, "dead #x 50 0;") + "dead ex 50 1;air 0;");
         due("n 0", x.drawn(0, 1), NONE);
         due("n 61", x.drawn(61, 1), NONE);
         for (int act = 0; act < 3; act++) {
-            due("one day", x.drawn(1, seedFor(8, act, 5, act, 3, act)), 1);
+            due("one day", x.drawn(1, Check.seedFor(8, act, 5, act, 3, act)), 1);
             due("he is lent it", x.dead(act, 2), act);
             due("the act is ahead of the day", x.dead(act, 5), 1);
         }
         due("day 3", x.now(0), 3);
         for (int act = 3; act < 5; act++) {
-            x.drawn(1, seedFor(8, act, 5, act - 3, 2, act - 3));
+            x.drawn(1, Check.seedFor(8, act, 5, act - 3, 2, act - 3));
             due("he is laid there", x.dead(act - 3, 3), act - 3);
         }
-        x.drawn(1, seedFor(8, 5, 3, 1));
+        x.drawn(1, Check.seedFor(8, 5, 3, 1));
         due("it is mended", x.box(1, 2), 0);
-        x.drawn(1, seedFor(8, 0, 5, 3, 3, 0));
-        x.drawn(1, seedFor(8, 6, 5, 2, 5, 3));
+        x.drawn(1, Check.seedFor(8, 0, 5, 3, 3, 0));
+        x.drawn(1, Check.seedFor(8, 6, 5, 2, 5, 3));
         due("they swap", x.dead(2, 2), 0);
-        x.drawn(1, seedFor(8, 6, 5, 2, 5, 2));
+        x.drawn(1, Check.seedFor(8, 6, 5, 2, 5, 2));
         due("alike: nothing", x.dead(2, 2), 0);
-        due("7: nothing", x.drawn(1, seedFor(8, 7)), 1);
-        due("what can't be is not done", x.drawn(1, seedFor(8, 0, 5, 0, 3, 1)), 1);
+        due("7: nothing", x.drawn(1, Check.seedFor(8, 7)), 1);
+        due("what can't be is not done", x.drawn(1, Check.seedFor(8, 0, 5, 0, 3, 1)), 1);
         due("she is laid yet", x.dead(0, 1), 3);
-        due("two days", x.drawn(2, seedFor(8, 7, 8, 5, 3, 2)), 2);
+        due("two days", x.drawn(2, Check.seedFor(8, 7, 8, 5, 3, 2)), 2);
         due("c is not mended: one lies in it", x.box(2, 2), 1);
         drawnWithoutSome();
         drawnToTheEnd();
@@ -912,15 +893,15 @@ public final class PromisesTest {
         due("nothing was done", x.box(0, 2), 0);
         // Without plots a day of laying draws once, so what is drawn behind it is the next day's.
         LentBoxes z = Check.made("dead k 50 0;dead l 50 0;box a 50 9;box b 50 9;box c 50 9;");
-        z.drawn(2, seedFor(8, 3, 8, 2, 2, 1, 3, 2));
+        z.drawn(2, Check.seedFor(8, 3, 8, 2, 2, 1, 3, 2));
         due("the second day's draw", z.dead(1, 2), 2);
         LentBoxes one = Check.made("box a 50 9;plot p 0;dead k 50 0;");
-        one.drawn(1, seedFor(8, 1, 1, 0, 1, 0));
+        one.drawn(1, Check.seedFor(8, 1, 1, 0, 1, 0));
         due("one and one box", one.dead(0, 1), 2);
-        one.drawn(1, seedFor(8, 6, 1, 0, 1, 0));
-        one.drawn(1, seedFor(8, 4, 1, 0, 1, 0));
+        one.drawn(1, Check.seedFor(8, 6, 1, 0, 1, 0));
+        one.drawn(1, Check.seedFor(8, 4, 1, 0, 1, 0));
         due("one plot", one.dead(0, 1), 3);
-        one.drawn(1, seedFor(8, 5, 1, 0));
+        one.drawn(1, Check.seedFor(8, 5, 1, 0));
         due("one box is mended", one.box(0, 2), 0);
         LentBoxes u = Check.made("plot p 0;dead k 50 0;");
         due("no boxes", u.drawn(60, 77), 60);
@@ -933,13 +914,13 @@ public final class PromisesTest {
             x.days(60);
         }
         x.days(38);
-        due("two are left", x.drawn(60, seedFor(8, 7, 8, 7, 8, 0, 1, 0, 1, 0)), 2);
+        due("two are left", x.drawn(60, Check.seedFor(8, 7, 8, 7, 8, 0, 1, 0, 1, 0)), 2);
         due("nothing is done on no day", x.dead(0, 1), 1);
-        due("none", x.drawn(5, seedFor(8, 0, 1, 0, 1, 0)), 0);
+        due("none", x.drawn(5, Check.seedFor(8, 0, 1, 0, 1, 0)), 0);
         due("nor then", x.dead(0, 1), 1);
         due("only above 0 is undone", x.undo(), 7);
         due("day 398", x.now(0), 398);
-        due("it can be lent on day 400, too", x.drawn(2, seedFor(8, 7, 8, 7)) + x.lend(0, 0), 2);
+        due("it can be lent on day 400, too", x.drawn(2, Check.seedFor(8, 7, 8, 7)) + x.lend(0, 0), 2);
     }
 
     private void odds() {
