@@ -1510,7 +1510,8 @@ public final class LentBoxes {
             int many = 0;
             while (many < n && s.day < DAYS_IN_ALL) {
                 actOnce(v, s);
-                many += s.passDays(1, v);
+                s.passDays(1, v);
+                many++;
             }
             return many;
         }
